@@ -1,0 +1,307 @@
+/** Promises 10, 11, 15 and 16: commit, abort, state and locked. */
+public final class CommitTest {
+    private static final Check CHECK = new Check();
+
+    public static void main(String[] args) {
+        nothingDone();
+        setsAddedAndTaken();
+        allAtItsSite();
+        conflictAtItsSite();
+        asksOtherHomes();
+        ownLocksAndOwnConflict();
+        lockedByAnother();
+        lockStaysUntilApplied();
+        firstNo();
+        laterAnswersAreNothing();
+        lateMessageOneLocks();
+        conflictNeedsApplied();
+        wrongInputs();
+        CHECK.end();
+    }
+
+    private static FarStore store(int sites, int... homes) {
+        FarStore x = new FarStore();
+        x.sites(sites);
+        for (int home : homes) {
+            x.object(home, false);
+        }
+        return x;
+    }
+
+    private static int beginAndWrite(FarStore x, int site, int... objects) {
+        int t = x.begin(site);
+        for (int object : objects) {
+            x.write(t, object, 10 + t);
+        }
+        return t;
+    }
+
+    private static void states(FarStore x, String when, int t, int... want) {
+        for (int what = 0; what < want.length; what++) {
+            CHECK.due(when + ": state(" + t + ", " + what + ")", x.state(t, what), want[what]);
+        }
+    }
+
+    private static void locks(FarStore x, String when, int... want) {
+        for (int object = 0; object < want.length; object++) {
+            CHECK.due(when + ": locked(" + object + ")", x.locked(object), want[object]);
+        }
+    }
+
+    private static void nothingDone() {
+        FarStore x = store(2, 0);
+        int t = x.begin(0);
+        states(x, "open", t, 0, 0, 0, 0);
+        x.read(t, 0);
+        CHECK.due("only reads", x.commit(t), 1);
+        states(x, "only reads", t, 1, 0, 0, 0);
+        CHECK.due("no number is used", x.seen(0, 0), 0);
+        CHECK.due("no commit", x.count(3), 0);
+        CHECK.due("no message", x.count(5), 0);
+    }
+
+    private static void setsAddedAndTaken() {
+        FarStore x = store(2, 0);
+        int set = x.object(1, true);
+        int t = x.begin(0);
+        x.change(t, set, 3, true);
+        x.change(t, set, 3, false);
+        CHECK.due("as much taken as added", x.commit(t), 1);
+        states(x, "as much taken as added", t, 1, 1, 1, 0);
+        CHECK.due("it goes to the other site", x.waiting(0, 1), 1);
+    }
+
+    private static void allAtItsSite() {
+        FarStore x = store(3, 0, 0);
+        int set = x.object(1, true);
+        int t = beginAndWrite(x, 0, 0, 1);
+        x.change(t, set, 3, true);
+        CHECK.due("at its own site", x.commit(t), 1);
+        states(x, "at its own site", t, 1, 1, 1, 0);
+        locks(x, "no locks", -1, -1, -1);
+        CHECK.due("to site 1", x.waiting(0, 1), 1);
+        CHECK.due("to site 2", x.waiting(0, 2), 1);
+        CHECK.due("not to itself", x.count(5), 2);
+        CHECK.due("seen at once", x.seen(0, 0), 1);
+        x.deliver(0, 2);
+        states(x, "applied at two", t, 1, 1, 2, 0);
+        x.deliver(0, 1);
+        states(x, "applied at all", t, 1, 1, 3, 0);
+        int next = beginAndWrite(x, 0, 0);
+        CHECK.due("the next one", x.commit(next), 1);
+        states(x, "the next number", next, 1, 2, 1, 0);
+    }
+
+    private static void conflictAtItsSite() {
+        FarStore x = store(2, 0, 0, 0);
+        int one = beginAndWrite(x, 0, 0);
+        int two = beginAndWrite(x, 0, 1, 0);
+        int three = beginAndWrite(x, 0, 2);
+        int reader = x.begin(0);
+        x.read(reader, 0);
+        CHECK.due("the first", x.commit(one), 1);
+        CHECK.due("the second wrote the same", x.commit(two), 2);
+        states(x, "the second", two, 2, 0, 0, 0);
+        CHECK.due("the third wrote another", x.commit(three), 1);
+        CHECK.due("a reader has no conflict", x.commit(reader), 1);
+        CHECK.due("no messages of an aborted one", x.waiting(0, 1), 2);
+        CHECK.due("nobody reads its write", x.read(x.begin(0), 1), 0);
+        int again = beginAndWrite(x, 0, 0, 1);
+        CHECK.due("begun behind the first", x.commit(again), 1);
+    }
+
+    private static void asksOtherHomes() {
+        FarStore x = store(4, 0, 1, 2, 2);
+        int t = beginAndWrite(x, 0, 3, 2, 1, 0);
+        CHECK.due("asks", x.commit(t), 3);
+        states(x, "asks", t, 3, 0, 0, 2);
+        locks(x, "asks", t, -1, -1, -1);
+        CHECK.due("one to site 1", x.waiting(0, 1), 1);
+        CHECK.due("one to site 2", x.waiting(0, 2), 1);
+        CHECK.due("none to site 3", x.waiting(0, 3), 0);
+        CHECK.due("MESSAGE 1 to site 2", x.deliver(0, 2), 1);
+        locks(x, "site 2 locks", t, -1, t, t);
+        CHECK.due("site 2 answers", x.waiting(2, 0), 1);
+        states(x, "the answer is on its way", t, 3, 0, 0, 2);
+        CHECK.due("yes of site 2", x.deliver(2, 0), 2);
+        states(x, "one yes", t, 3, 0, 0, 1);
+        CHECK.due("MESSAGE 1 to site 1", x.deliver(0, 1), 1);
+        CHECK.due("yes of site 1", x.deliver(1, 0), 2);
+        states(x, "all yes", t, 1, 1, 1, 0);
+        locks(x, "its own lock is gone", -1, t, t, t);
+        for (int s = 1; s < 4; s++) {
+            CHECK.due("the commit to site " + s, x.deliver(0, s), 5);
+            states(x, "applied there", t, 1, 1, s + 1, 0);
+        }
+        locks(x, "all locks are gone", -1, -1, -1, -1);
+        CHECK.due("nothing waits", x.count(5), 0);
+    }
+
+    private static void ownLocksAndOwnConflict() {
+        FarStore x = store(2, 0, 1);
+        int one = beginAndWrite(x, 0, 0);
+        int two = beginAndWrite(x, 0, 0, 1);
+        x.commit(one);
+        CHECK.due("a conflict at its own site: it does not ask", x.commit(two), 2);
+        states(x, "not asked", two, 2, 0, 0, 0);
+        CHECK.due("only the first's commit waits", x.count(5), 1);
+        locks(x, "nothing is locked", -1, -1);
+        int three = beginAndWrite(x, 0, 1);
+        CHECK.due("none of its own site", x.commit(three), 3);
+        locks(x, "nothing locked at home yet", -1, -1);
+    }
+
+    private static void lockedByAnother() {
+        FarStore x = store(3, 0, 1, 0);
+        int far = beginAndWrite(x, 0, 0, 1);
+        x.commit(far);
+        int near = beginAndWrite(x, 0, 0);
+        CHECK.due("locked by another at its own site", x.commit(near), 2);
+        int half = beginAndWrite(x, 0, 1, 0);
+        CHECK.due("locked by another, one of several", x.commit(half), 2);
+        int other = beginAndWrite(x, 2, 0, 2);
+        CHECK.due("asks for it", x.commit(other), 3);
+        CHECK.due("MESSAGE 1", x.deliver(2, 0), 1);
+        locks(x, "with a conflict of one none is locked", far, -1, -1);
+        CHECK.due("no", x.deliver(0, 2), 3);
+        states(x, "no", other, 2, 0, 0, 0);
+        CHECK.due("no MESSAGE 4 to the one that said no", x.waiting(2, 0), 0);
+        locks(x, "another's lock stays", far, -1, -1);
+    }
+
+    private static void lockStaysUntilApplied() {
+        FarStore x = store(2, 0);
+        int far = beginAndWrite(x, 1, 0);
+        x.commit(far);
+        x.deliver(1, 0);
+        x.deliver(0, 1);
+        states(x, "committed", far, 1, 1, 1, 0);
+        locks(x, "the commit has yet to arrive", far);
+        int near = beginAndWrite(x, 0, 0);
+        CHECK.due("still locked", x.commit(near), 2);
+        int late = beginAndWrite(x, 0, 0);
+        CHECK.due("the commit arrives", x.deliver(1, 0), 5);
+        locks(x, "arrived", -1);
+        CHECK.due("applied but not visible", x.commit(late), 2);
+        CHECK.due("visible", x.commit(beginAndWrite(x, 0, 0)), 1);
+    }
+
+    private static void firstNo() {
+        FarStore x = store(4, 0, 1, 2, 3);
+        x.commit(beginAndWrite(x, 2, 2));
+        int t = beginAndWrite(x, 0, 0, 1, 2, 3);
+        x.commit(t);
+        x.deliver(0, 1);
+        x.deliver(0, 2);
+        locks(x, "site 1 has locked, site 2 has not", t, t, -1, -1);
+        CHECK.due("the commit of site 2", x.deliver(2, 0), 5);
+        CHECK.due("no of site 2", x.deliver(2, 0), 3);
+        states(x, "no", t, 2, 0, 0, 0);
+        locks(x, "its own lock is gone", -1, t, -1, -1);
+        CHECK.due("MESSAGE 4 to site 1", x.waiting(0, 1), 1);
+        CHECK.due("none to site 2", x.waiting(0, 2), 0);
+        CHECK.due("MESSAGE 4 to site 3, behind MESSAGE 1", x.waiting(0, 3), 2);
+        CHECK.due("MESSAGE 4 arrives", x.deliver(0, 1), 4);
+        locks(x, "the lock at site 1 is gone", -1, -1, -1, -1);
+    }
+
+    private static void laterAnswersAreNothing() {
+        FarStore x = store(3, 1, 2);
+        x.commit(beginAndWrite(x, 1, 0));
+        x.commit(beginAndWrite(x, 2, 1));
+        int t = beginAndWrite(x, 0, 0, 1);
+        x.commit(t);
+        x.deliver(0, 1);
+        x.deliver(0, 2);
+        x.deliver(1, 0);
+        x.deliver(2, 0);
+        CHECK.due("the first no", x.deliver(1, 0), 3);
+        CHECK.due("MESSAGE 4 to the other one", x.waiting(0, 2), 1);
+        CHECK.due("the second no", x.deliver(2, 0), 3);
+        CHECK.due("no MESSAGE 4 for a second no", x.waiting(0, 1), 0);
+        CHECK.due("still one to site 2", x.waiting(0, 2), 1);
+        states(x, "aborted once", t, 2, 0, 0, 0);
+
+        FarStore y = store(3, 1, 2);
+        y.commit(beginAndWrite(y, 1, 0));
+        int u = beginAndWrite(y, 0, 0, 1);
+        y.commit(u);
+        y.deliver(0, 1);
+        y.deliver(0, 2);
+        y.deliver(1, 0);
+        CHECK.due("no", y.deliver(1, 0), 3);
+        CHECK.due("a later yes", y.deliver(2, 0), 2);
+        states(y, "a later yes is nothing", u, 2, 0, 0, 0);
+        locks(y, "it stays locked until MESSAGE 4", -1, u);
+        CHECK.due("MESSAGE 4", y.deliver(0, 2), 4);
+        locks(y, "unlocked", -1, -1);
+    }
+
+    private static void lateMessageOneLocks() {
+        FarStore x = store(3, 1, 2);
+        x.commit(beginAndWrite(x, 1, 0));
+        int t = beginAndWrite(x, 0, 0, 1);
+        x.commit(t);
+        x.deliver(0, 1);
+        x.deliver(1, 0);
+        x.deliver(1, 0);
+        states(x, "aborted before site 2 was asked", t, 2, 0, 0, 0);
+        CHECK.due("MESSAGE 1 of an aborted one", x.deliver(0, 2), 1);
+        locks(x, "it locks", -1, t);
+        CHECK.due("and is answered", x.waiting(2, 0), 1);
+        int near = beginAndWrite(x, 2, 1);
+        CHECK.due("locked for others", x.commit(near), 2);
+        CHECK.due("MESSAGE 4 behind it", x.deliver(0, 2), 4);
+        locks(x, "unlocked", -1, -1);
+        CHECK.due("free again", x.commit(beginAndWrite(x, 2, 1)), 1);
+        CHECK.due("yes of an aborted one", x.deliver(2, 0), 2);
+        states(x, "still aborted", t, 2, 0, 0, 0);
+    }
+
+    private static void conflictNeedsApplied() {
+        FarStore x = store(2, 0);
+        int t = beginAndWrite(x, 1, 0);
+        x.commit(t);
+        x.commit(beginAndWrite(x, 0, 0));
+        CHECK.due("MESSAGE 1 behind another's commit at home", x.deliver(1, 0), 1);
+        CHECK.due("the commit", x.deliver(0, 1), 5);
+        CHECK.due("no", x.deliver(0, 1), 3);
+        states(x, "no", t, 2, 0, 0, 0);
+        int u = beginAndWrite(x, 1, 0);
+        x.commit(u);
+        x.deliver(1, 0);
+        CHECK.due("what is visible is no conflict", x.deliver(0, 1), 2);
+        states(x, "yes", u, 1, 1, 1, 0);
+    }
+
+    private static void wrongInputs() {
+        FarStore x = store(2, 0, 1);
+        int open = beginAndWrite(x, 0, 0);
+        int done = beginAndWrite(x, 1, 1);
+        x.commit(done);
+        int gone = x.begin(0);
+        x.abort(gone);
+        states(x, "aborted", gone, 2, 0, 0, 0);
+        int asking = beginAndWrite(x, 1, 0);
+        x.commit(asking);
+        String before = Check.picture(x);
+        int[] none = {-1, 4, Integer.MAX_VALUE, Integer.MIN_VALUE};
+        for (int t : none) {
+            CHECK.bad("commit(" + t + ")", () -> x.commit(t));
+            CHECK.badCall("abort(" + t + ")", () -> x.abort(t));
+            CHECK.bad("state(" + t + ", 0)", () -> x.state(t, 0));
+            CHECK.bad("state(0, " + t + ")", () -> x.state(open, t));
+            CHECK.bad("locked(" + t + ")", () -> x.locked(t));
+        }
+        CHECK.bad("locked(2)", () -> x.locked(2));
+        int[] closed = {done, gone, asking};
+        for (int t : closed) {
+            CHECK.refused("commit of one not open: " + t, () -> x.commit(t));
+            CHECK.refusedCall("abort of one not open: " + t, () -> x.abort(t));
+        }
+        CHECK.same("nothing has changed", Check.picture(x), before);
+        x.abort(open);
+        states(x, "aborted with writes", open, 2, 0, 0, 0);
+        CHECK.due("abort sends nothing", x.waiting(0, 1), 0);
+    }
+}

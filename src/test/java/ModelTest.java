@@ -1,0 +1,131 @@
+import java.util.Random;
+import java.util.function.LongSupplier;
+
+/** Long runs of calls on the program and on the plain model, which must answer the same; the seeds are fixed. */
+public final class ModelTest {
+    private static final int RUNS = 600;
+    private static final int CALLS = 512;
+    private static final Check CHECK = new Check();
+
+    private final FarStore store = new FarStore();
+    private final PlainModel model = new PlainModel();
+    private final Random random;
+    private final int run;
+    private final int sites;
+    private final int objects;
+    private final int openAtOnce;
+
+    private ModelTest(int run) {
+        this.run = run;
+        random = new Random(run);
+        sites = 1 + random.nextInt(6);
+        objects = 1 + random.nextInt(run % 3 == 0 ? 12 : 4);
+        openAtOnce = 1 + random.nextInt(12);
+    }
+
+    public static void main(String[] args) {
+        for (int run = 0; run < RUNS; run++) {
+            new ModelTest(run).go();
+        }
+        CHECK.end();
+    }
+
+    private void go() {
+        same("sites(" + sites + ")", Check.silent(() -> store.sites(sites)), Check.silent(() -> model.sites(sites)));
+        for (int call = 1; call < CALLS; call++) {
+            if (model.count(1) < objects) {
+                makeObject();
+            } else {
+                step(random.nextInt(100));
+            }
+        }
+    }
+
+    private void same(String call, LongSupplier got, LongSupplier want) {
+        CHECK.same("run " + run + ": " + call, Check.told(got), Check.told(want));
+    }
+
+    private int site() {
+        return random.nextInt(60) == 0 ? random.nextInt(9) - 1 : random.nextInt(sites);
+    }
+
+    private int object() {
+        return random.nextInt(60) == 0 ? random.nextInt(16) - 2 : random.nextInt(objects);
+    }
+
+    /** Mostly one of the latest, so that most are open and the old ones are looked at now and then. */
+    private int transaction() {
+        int made = model.count(2);
+        if (random.nextInt(12) == 0) {
+            return random.nextInt(made + 2) - 1;
+        }
+        return made - 1 - random.nextInt(openAtOnce);
+    }
+
+    private void makeObject() {
+        int home = site();
+        boolean set = random.nextInt(4) == 0;
+        same("object(" + home + ", " + set + ")", () -> store.object(home, set), () -> model.object(home, set));
+    }
+
+    private void step(int kind) {
+        if (kind < 14) {
+            int s = site();
+            same("begin(" + s + ")", () -> store.begin(s), () -> model.begin(s));
+        } else if (kind < 46) {
+            useObject(kind);
+        } else if (kind < 58) {
+            int t = transaction();
+            same("commit(" + t + ")", () -> store.commit(t), () -> model.commit(t));
+        } else if (kind < 59) {
+            int t = transaction();
+            same("abort(" + t + ")", Check.silent(() -> store.abort(t)), Check.silent(() -> model.abort(t)));
+        } else if (kind < 85) {
+            int a = site();
+            int b = site();
+            same("deliver(" + a + ", " + b + ")", () -> store.deliver(a, b), () -> model.deliver(a, b));
+        } else {
+            look(kind);
+        }
+    }
+
+    private void useObject(int kind) {
+        int t = transaction();
+        int o = object();
+        int e = random.nextInt(5) - 2;
+        boolean add = random.nextInt(3) > 0;
+        String names = "(" + t + ", " + o + ", ";
+        if (kind < 26) {
+            same("write" + names + e + ")", Check.silent(() -> store.write(t, o, e)),
+                Check.silent(() -> model.write(t, o, e)));
+        } else if (kind < 32) {
+            same("change" + names + e + ", " + add + ")", Check.silent(() -> store.change(t, o, e, add)),
+                Check.silent(() -> model.change(t, o, e, add)));
+        } else if (kind < 40) {
+            same("read" + names + ")", () -> store.read(t, o), () -> model.read(t, o));
+        } else if (kind < 43) {
+            same("count" + names + e + ")", () -> store.count(t, o, e), () -> model.count(t, o, e));
+        } else {
+            same("element" + names + e + ")", () -> store.element(t, o, e), () -> model.element(t, o, e));
+        }
+    }
+
+    private void look(int kind) {
+        int a = site();
+        int b = site();
+        int t = transaction();
+        int o = object();
+        int what = random.nextInt(9) - 1;
+        if (kind < 87) {
+            same("waiting(" + a + ", " + b + ")", () -> store.waiting(a, b), () -> model.waiting(a, b));
+        } else if (kind < 90) {
+            same("seen(" + a + ", " + b + ")", () -> store.seen(a, b), () -> model.seen(a, b));
+        } else if (kind < 94) {
+            same("state(" + t + ", " + what + ")", () -> store.state(t, what), () -> model.state(t, what));
+        } else if (kind < 97) {
+            same("locked(" + o + ")", () -> store.locked(o), () -> model.locked(o));
+        } else {
+            same("count(" + what + ")", () -> store.count(what), () -> model.count(what));
+        }
+    }
+}
