@@ -15,7 +15,7 @@ final class Check {
         void run();
     }
 
-    /** Something about a call that is due, told as a text: a number, or the simple name of an exception. */
+    /** What a call answers, as a text: a number, or the simple name of the exception that it throws. */
     static String told(LongSupplier call) {
         try {
             return Long.toString(call.getAsLong());
@@ -72,6 +72,16 @@ final class Check {
             System.out.println(wrong + " of " + made + " answers are not as due");
             System.exit(1);
         }
+    }
+
+    /** A new store with a plain object for each home. */
+    static FarStore store(int sites, int... homes) {
+        FarStore x = new FarStore();
+        x.sites(sites);
+        for (int home : homes) {
+            x.object(home, false);
+        }
+        return x;
     }
 
     /** All that can be asked of a small store without changing it, as one text. */

@@ -14,18 +14,11 @@ public final class CommitTest {
         firstNo();
         laterAnswersAreNothing();
         lateMessageOneLocks();
+        messageFourLeavesOthersLocks();
+        toAllOfSixSites();
         conflictNeedsApplied();
         wrongInputs();
         CHECK.end();
-    }
-
-    private static FarStore store(int sites, int... homes) {
-        FarStore x = new FarStore();
-        x.sites(sites);
-        for (int home : homes) {
-            x.object(home, false);
-        }
-        return x;
     }
 
     private static int beginAndWrite(FarStore x, int site, int... objects) {
@@ -49,7 +42,7 @@ public final class CommitTest {
     }
 
     private static void nothingDone() {
-        FarStore x = store(2, 0);
+        FarStore x = Check.store(2, 0);
         int t = x.begin(0);
         states(x, "open", t, 0, 0, 0, 0);
         x.read(t, 0);
@@ -61,7 +54,7 @@ public final class CommitTest {
     }
 
     private static void setsAddedAndTaken() {
-        FarStore x = store(2, 0);
+        FarStore x = Check.store(2, 0);
         int set = x.object(1, true);
         int t = x.begin(0);
         x.change(t, set, 3, true);
@@ -72,7 +65,7 @@ public final class CommitTest {
     }
 
     private static void allAtItsSite() {
-        FarStore x = store(3, 0, 0);
+        FarStore x = Check.store(3, 0, 0);
         int set = x.object(1, true);
         int t = beginAndWrite(x, 0, 0, 1);
         x.change(t, set, 3, true);
@@ -93,7 +86,7 @@ public final class CommitTest {
     }
 
     private static void conflictAtItsSite() {
-        FarStore x = store(2, 0, 0, 0);
+        FarStore x = Check.store(2, 0, 0, 0);
         int one = beginAndWrite(x, 0, 0);
         int two = beginAndWrite(x, 0, 1, 0);
         int three = beginAndWrite(x, 0, 2);
@@ -111,7 +104,7 @@ public final class CommitTest {
     }
 
     private static void asksOtherHomes() {
-        FarStore x = store(4, 0, 1, 2, 2);
+        FarStore x = Check.store(4, 0, 1, 2, 2);
         int t = beginAndWrite(x, 0, 3, 2, 1, 0);
         CHECK.due("asks", x.commit(t), 3);
         states(x, "asks", t, 3, 0, 0, 2);
@@ -138,7 +131,7 @@ public final class CommitTest {
     }
 
     private static void ownLocksAndOwnConflict() {
-        FarStore x = store(2, 0, 1);
+        FarStore x = Check.store(2, 0, 1);
         int one = beginAndWrite(x, 0, 0);
         int two = beginAndWrite(x, 0, 0, 1);
         x.commit(one);
@@ -152,7 +145,7 @@ public final class CommitTest {
     }
 
     private static void lockedByAnother() {
-        FarStore x = store(3, 0, 1, 0);
+        FarStore x = Check.store(3, 0, 1, 0);
         int far = beginAndWrite(x, 0, 0, 1);
         x.commit(far);
         int near = beginAndWrite(x, 0, 0);
@@ -170,7 +163,7 @@ public final class CommitTest {
     }
 
     private static void lockStaysUntilApplied() {
-        FarStore x = store(2, 0);
+        FarStore x = Check.store(2, 0);
         int far = beginAndWrite(x, 1, 0);
         x.commit(far);
         x.deliver(1, 0);
@@ -187,7 +180,7 @@ public final class CommitTest {
     }
 
     private static void firstNo() {
-        FarStore x = store(4, 0, 1, 2, 3);
+        FarStore x = Check.store(4, 0, 1, 2, 3);
         x.commit(beginAndWrite(x, 2, 2));
         int t = beginAndWrite(x, 0, 0, 1, 2, 3);
         x.commit(t);
@@ -206,7 +199,7 @@ public final class CommitTest {
     }
 
     private static void laterAnswersAreNothing() {
-        FarStore x = store(3, 1, 2);
+        FarStore x = Check.store(3, 1, 2);
         x.commit(beginAndWrite(x, 1, 0));
         x.commit(beginAndWrite(x, 2, 1));
         int t = beginAndWrite(x, 0, 0, 1);
@@ -222,7 +215,7 @@ public final class CommitTest {
         CHECK.due("still one to site 2", x.waiting(0, 2), 1);
         states(x, "aborted once", t, 2, 0, 0, 0);
 
-        FarStore y = store(3, 1, 2);
+        FarStore y = Check.store(3, 1, 2);
         y.commit(beginAndWrite(y, 1, 0));
         int u = beginAndWrite(y, 0, 0, 1);
         y.commit(u);
@@ -238,7 +231,7 @@ public final class CommitTest {
     }
 
     private static void lateMessageOneLocks() {
-        FarStore x = store(3, 1, 2);
+        FarStore x = Check.store(3, 1, 2);
         x.commit(beginAndWrite(x, 1, 0));
         int t = beginAndWrite(x, 0, 0, 1);
         x.commit(t);
@@ -258,8 +251,45 @@ public final class CommitTest {
         states(x, "still aborted", t, 2, 0, 0, 0);
     }
 
+    private static void messageFourLeavesOthersLocks() {
+        FarStore x = Check.store(4, 1, 2);
+        x.commit(beginAndWrite(x, 1, 0));
+        int holder = beginAndWrite(x, 3, 1);
+        x.commit(holder);
+        x.deliver(3, 2);
+        int t = beginAndWrite(x, 0, 0, 1);
+        x.commit(t);
+        x.deliver(0, 1);
+        x.deliver(0, 2);
+        x.deliver(1, 0);
+        CHECK.due("the first no", x.deliver(1, 0), 3);
+        CHECK.due("MESSAGE 4 to one that will say no too", x.deliver(0, 2), 4);
+        locks(x, "another's lock stays", -1, holder);
+        CHECK.due("the holder's yes", x.deliver(2, 3), 2);
+        states(x, "the holder commits", holder, 1, 1, 1, 0);
+    }
+
+    private static void toAllOfSixSites() {
+        FarStore x = Check.store(6, 0, 1, 2, 3, 4, 5);
+        int t = beginAndWrite(x, 2, 5, 4, 3, 2, 1, 0);
+        CHECK.due("asks all", x.commit(t), 3);
+        states(x, "asks all", t, 3, 0, 0, 5);
+        int[] others = {0, 1, 3, 4, 5};
+        for (int home : others) {
+            CHECK.due("MESSAGE 1 to site " + home, x.deliver(2, home), 1);
+            CHECK.due("yes of site " + home, x.deliver(home, 2), 2);
+        }
+        states(x, "all five have said yes", t, 1, 1, 1, 0);
+        for (int home : others) {
+            CHECK.due("still locked at " + home, x.locked(home), t);
+            CHECK.due("the commit to site " + home, x.deliver(2, home), 5);
+            CHECK.due("no lock at " + home, x.locked(home), -1);
+        }
+        states(x, "applied at all six", t, 1, 1, 6, 0);
+    }
+
     private static void conflictNeedsApplied() {
-        FarStore x = store(2, 0);
+        FarStore x = Check.store(2, 0);
         int t = beginAndWrite(x, 1, 0);
         x.commit(t);
         x.commit(beginAndWrite(x, 0, 0));
@@ -275,7 +305,7 @@ public final class CommitTest {
     }
 
     private static void wrongInputs() {
-        FarStore x = store(2, 0, 1);
+        FarStore x = Check.store(2, 0, 1);
         int open = beginAndWrite(x, 0, 0);
         int done = beginAndWrite(x, 1, 1);
         x.commit(done);

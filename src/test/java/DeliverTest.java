@@ -12,15 +12,6 @@ public final class DeliverTest {
         CHECK.end();
     }
 
-    private static FarStore store(int sites, int... homes) {
-        FarStore x = new FarStore();
-        x.sites(sites);
-        for (int home : homes) {
-            x.object(home, false);
-        }
-        return x;
-    }
-
     private static int commitOne(FarStore x, int site, int object) {
         int t = x.begin(site);
         x.write(t, object, 10 + t);
@@ -29,7 +20,7 @@ public final class DeliverTest {
     }
 
     private static void inOrder() {
-        FarStore x = store(2, 0, 1);
+        FarStore x = Check.store(2, 0, 1);
         CHECK.due("none waits", x.deliver(0, 1), 0);
         CHECK.due("none waits back", x.waiting(1, 0), 0);
         commitOne(x, 0, 0);
@@ -54,7 +45,7 @@ public final class DeliverTest {
     }
 
     private static void heldForWhatItSaw() {
-        FarStore x = store(3, 0, 1, 2);
+        FarStore x = Check.store(3, 0, 1, 2);
         int first = commitOne(x, 0, 0);
         x.deliver(0, 1);
         int second = commitOne(x, 1, 1);
@@ -76,7 +67,7 @@ public final class DeliverTest {
     }
 
     private static void heldForTheNumberBefore() {
-        FarStore x = store(3, 0, 1, 1);
+        FarStore x = Check.store(3, 0, 1, 1);
         int blind = x.begin(1);
         x.write(blind, 2, 77);
         commitOne(x, 0, 0);
@@ -97,7 +88,7 @@ public final class DeliverTest {
     }
 
     private static void chainOfHeld() {
-        FarStore x = store(5, 0, 1, 2, 3, 4);
+        FarStore x = Check.store(5, 0, 1, 2, 3, 4);
         for (int s = 0; s < 4; s++) {
             commitOne(x, s, s);
             for (int before = 0; before <= s && s < 3; before++) {
@@ -116,7 +107,7 @@ public final class DeliverTest {
     }
 
     private static void heldKeepsLocks() {
-        FarStore x = store(3, 0, 2);
+        FarStore x = Check.store(3, 0, 2);
         commitOne(x, 0, 0);
         x.deliver(0, 1);
         int t = x.begin(1);
@@ -134,7 +125,7 @@ public final class DeliverTest {
     }
 
     private static void wrongInputs() {
-        FarStore x = store(3, 0, 1);
+        FarStore x = Check.store(3, 0, 1);
         commitOne(x, 0, 0);
         String before = Check.picture(x);
         int[][] bad = {{0, 0}, {2, 2}, {0, 3}, {3, 0}, {-1, 0}, {0, -1}, {3, 3}, {Integer.MIN_VALUE, 1},

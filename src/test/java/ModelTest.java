@@ -14,6 +14,8 @@ public final class ModelTest {
     private final int sites;
     private final int objects;
     private final int openAtOnce;
+    /** Links that deliver seldom, so that commits overtake those that they saw. */
+    private final int slowLinks;
 
     private ModelTest(int run) {
         this.run = run;
@@ -21,6 +23,7 @@ public final class ModelTest {
         sites = 1 + random.nextInt(6);
         objects = 1 + random.nextInt(run % 3 == 0 ? 12 : 4);
         openAtOnce = 1 + random.nextInt(12);
+        slowLinks = 1 + random.nextInt(4);
     }
 
     public static void main(String[] args) {
@@ -81,11 +84,17 @@ public final class ModelTest {
             int t = transaction();
             same("abort(" + t + ")", Check.silent(() -> store.abort(t)), Check.silent(() -> model.abort(t)));
         } else if (kind < 85) {
-            int a = site();
-            int b = site();
-            same("deliver(" + a + ", " + b + ")", () -> store.deliver(a, b), () -> model.deliver(a, b));
+            arrive();
         } else {
             look(kind);
+        }
+    }
+
+    private void arrive() {
+        int a = site();
+        int b = site();
+        if ((a + 2 * b) % slowLinks != 1 || random.nextInt(6) == 0) {
+            same("deliver(" + a + ", " + b + ")", () -> store.deliver(a, b), () -> model.deliver(a, b));
         }
     }
 

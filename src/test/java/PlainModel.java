@@ -9,7 +9,7 @@ import java.util.Set;
 import java.util.TreeMap;
 import java.util.TreeSet;
 
-/** The document word by word, with sets of commits where the program has numbers. Slow, and not bound by LANGUAGE.md. */
+/** The document word by word, with sets of commits where the program has numbers; not bound by LANGUAGE.md. */
 final class PlainModel {
     private int siteCount = 0;
     private final List<Integer> homes = new ArrayList<>();

@@ -11,14 +11,8 @@ public final class ReadWriteTest {
         CHECK.end();
     }
 
-    private static FarStore store(int sites) {
-        FarStore x = new FarStore();
-        x.sites(sites);
-        return x;
-    }
-
     private static void ownWrites() {
-        FarStore x = store(2);
+        FarStore x = Check.store(2);
         int a = x.object(0, false);
         int b = x.object(1, false);
         int t = x.begin(0);
@@ -36,7 +30,7 @@ public final class ReadWriteTest {
     }
 
     private static void snapshots() {
-        FarStore x = store(2);
+        FarStore x = Check.store(2);
         int a = x.object(0, false);
         int before = x.begin(0);
         int far = x.begin(1);
@@ -60,7 +54,7 @@ public final class ReadWriteTest {
     }
 
     private static void latestOfVisible() {
-        FarStore x = store(2);
+        FarStore x = Check.store(2);
         int a = x.object(0, false);
         int[] readers = new int[4];
         for (int i = 0; i < 4; i++) {
@@ -93,7 +87,7 @@ public final class ReadWriteTest {
     }
 
     private static void commitNumbersOfSitesAreApart() {
-        FarStore x = store(3);
+        FarStore x = Check.store(3);
         int a = x.object(1, false);
         int b = x.object(2, false);
         for (int i = 1; i <= 3; i++) {
@@ -112,7 +106,7 @@ public final class ReadWriteTest {
     }
 
     private static void wrongInputs() {
-        FarStore x = store(2);
+        FarStore x = Check.store(2);
         int plain = x.object(0, false);
         int set = x.object(0, true);
         int open = x.begin(0);

@@ -12,14 +12,8 @@ public final class SetTest {
         CHECK.end();
     }
 
-    private static FarStore store(int sites) {
-        FarStore x = new FarStore();
-        x.sites(sites);
-        return x;
-    }
-
     private static void ownChanges() {
-        FarStore x = store(1);
+        FarStore x = Check.store(1);
         int set = x.object(0, true);
         int twin = x.object(0, true);
         int t = x.begin(0);
@@ -46,7 +40,7 @@ public final class SetTest {
     }
 
     private static void orderOfElements() {
-        FarStore x = store(1);
+        FarStore x = Check.store(1);
         int set = x.object(0, true);
         int t = x.begin(0);
         int[] added = {3, Integer.MAX_VALUE, -1, 0, Integer.MIN_VALUE, -70000, 70000};
@@ -61,7 +55,7 @@ public final class SetTest {
     }
 
     private static void manyElements() {
-        FarStore x = store(1);
+        FarStore x = Check.store(1);
         int set = x.object(0, true);
         int t = x.begin(0);
         int many = 250;
@@ -75,7 +69,7 @@ public final class SetTest {
     }
 
     private static void countsOfVisible() {
-        FarStore x = store(2);
+        FarStore x = Check.store(2);
         int set = x.object(0, true);
         int old = x.begin(0);
         int t = x.begin(0);
@@ -104,7 +98,7 @@ public final class SetTest {
     }
 
     private static void setsCommitEverywhere() {
-        FarStore x = store(3);
+        FarStore x = Check.store(3);
         int set = x.object(0, true);
         for (int s = 0; s < 3; s++) {
             int t = x.begin(s);
@@ -124,7 +118,7 @@ public final class SetTest {
     }
 
     private static void wrongInputs() {
-        FarStore x = store(2);
+        FarStore x = Check.store(2);
         int plain = x.object(0, false);
         int set = x.object(0, true);
         int open = x.begin(0);
