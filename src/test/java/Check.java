@@ -1,4 +1,3 @@
-import java.util.NoSuchElementException;
 import java.util.function.LongSupplier;
 
 /** What the project's tests share: it compares answers, prints those that are not as due, and ends the program. */
@@ -9,6 +8,7 @@ final class Check {
 
     private int wrong = 0;
     private int made = 0;
+    private String sentence = "";
 
     /** A call that answers nothing. */
     interface Call {
@@ -19,7 +19,7 @@ final class Check {
     static String told(LongSupplier call) {
         try {
             return Long.toString(call.getAsLong());
-        } catch (IllegalArgumentException | IllegalStateException | NoSuchElementException e) {
+        } catch (RuntimeException e) {
             return e.getClass().getSimpleName();
         }
     }
@@ -31,11 +31,16 @@ final class Check {
         };
     }
 
+    /** What is checked from here on stands for these words of the document. */
+    void standsFor(String words) {
+        sentence = "\"" + words + "\": ";
+    }
+
     void same(String what, String got, String want) {
         made++;
         if (!got.equals(want)) {
             wrong++;
-            System.out.println(what + " answered " + got + ", due is " + want);
+            System.out.println(sentence + what + " answered " + got + ", due is " + want);
         }
     }
 
@@ -67,6 +72,24 @@ final class Check {
         fails(what, MISSING, call);
     }
 
+    /** A test whose calls throw what they shouldn't ends there, and those behind it go on. */
+    void ends(Call test) {
+        try {
+            test.run();
+        } catch (RuntimeException e) {
+            same(callerOfStore(e), e.getClass().getSimpleName(), "no exception");
+        }
+    }
+
+    private static String callerOfStore(RuntimeException e) {
+        for (StackTraceElement line : e.getStackTrace()) {
+            if (!line.getClassName().startsWith("FarStore")) {
+                return line.toString();
+            }
+        }
+        return "a call";
+    }
+
     void end() {
         if (wrong > 0) {
             System.out.println(wrong + " of " + made + " answers are not as due");
@@ -82,6 +105,44 @@ final class Check {
             x.object(home, false);
         }
         return x;
+    }
+
+    /** A new transaction that has written 10 and its own number to each of the objects. */
+    static int writer(FarStore x, int site, int... objects) {
+        int t = x.begin(site);
+        for (int object : objects) {
+            x.write(t, object, 10 + t);
+        }
+        return t;
+    }
+
+    /** A transaction that wrote as writer does, and was to commit. */
+    static int committed(FarStore x, int site, int... objects) {
+        int t = writer(x, site, objects);
+        x.commit(t);
+        return t;
+    }
+
+    /** A transaction that added one element to a set, and was to commit. */
+    static int adder(FarStore x, int site, int set, int element) {
+        int t = x.begin(site);
+        x.change(t, set, element, true);
+        x.commit(t);
+        return t;
+    }
+
+    /** All that state tells of a transaction, from what 0 on. */
+    void states(FarStore x, String when, int t, int... want) {
+        for (int what = 0; what < want.length; what++) {
+            due(when + ": state(" + t + ", " + what + ")", x.state(t, what), want[what]);
+        }
+    }
+
+    /** Who has locked each object, from object 0 on. */
+    void locks(FarStore x, String when, int... want) {
+        for (int object = 0; object < want.length; object++) {
+            due(when + ": locked(" + object + ")", x.locked(object), want[object]);
+        }
     }
 
     /** All that can be asked of a small store without changing it, as one text. */
