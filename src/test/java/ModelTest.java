@@ -3,8 +3,10 @@ import java.util.function.LongSupplier;
 
 /** Long runs of calls on the program and on the plain model, which must answer the same; the seeds are fixed. */
 public final class ModelTest {
-    private static final int RUNS = 600;
+    private static final int RUNS = 1500;
     private static final int CALLS = 512;
+    /** How often a pick that would do nothing is taken again. */
+    private static final int TRIES = 6;
     private static final Check CHECK = new Check();
 
     private final FarStore store = new FarStore();
@@ -22,7 +24,7 @@ public final class ModelTest {
         random = new Random(run);
         sites = 1 + random.nextInt(6);
         objects = 1 + random.nextInt(run % 3 == 0 ? 12 : 4);
-        openAtOnce = 1 + random.nextInt(12);
+        openAtOnce = 1 + random.nextInt(8);
         slowLinks = 1 + random.nextInt(4);
     }
 
@@ -56,13 +58,21 @@ public final class ModelTest {
         return random.nextInt(60) == 0 ? random.nextInt(16) - 2 : random.nextInt(objects);
     }
 
-    /** Mostly one of the latest, so that most are open and the old ones are looked at now and then. */
+    /** Mostly an open one of the latest; the others, and some that are not there, now and then. */
     private int transaction() {
         int made = model.count(2);
         if (random.nextInt(12) == 0) {
             return random.nextInt(made + 2) - 1;
         }
-        return made - 1 - random.nextInt(openAtOnce);
+        int t = made - 1 - random.nextInt(openAtOnce);
+        for (int tries = 0; tries < TRIES && !isOpen(t); tries++) {
+            t = made - 1 - random.nextInt(openAtOnce);
+        }
+        return t;
+    }
+
+    private boolean isOpen(int t) {
+        return t >= 0 && model.state(t, 0) == 0;
     }
 
     private void makeObject() {
@@ -72,10 +82,10 @@ public final class ModelTest {
     }
 
     private void step(int kind) {
-        if (kind < 14) {
+        if (kind < 10) {
             int s = site();
             same("begin(" + s + ")", () -> store.begin(s), () -> model.begin(s));
-        } else if (kind < 46) {
+        } else if (kind < 48) {
             useObject(kind);
         } else if (kind < 58) {
             int t = transaction();
@@ -91,11 +101,22 @@ public final class ModelTest {
     }
 
     private void arrive() {
-        int a = site();
-        int b = site();
+        int from = site();
+        int to = site();
+        for (int tries = 0; tries < TRIES && !carries(from, to); tries++) {
+            from = site();
+            to = site();
+        }
+        int a = from;
+        int b = to;
         if ((a + 2 * b) % slowLinks != 1 || random.nextInt(6) == 0) {
             same("deliver(" + a + ", " + b + ")", () -> store.deliver(a, b), () -> model.deliver(a, b));
         }
+    }
+
+    private boolean carries(int from, int to) {
+        boolean link = from != to && Math.min(from, to) >= 0 && Math.max(from, to) < sites;
+        return link && model.waiting(from, to) > 0;
     }
 
     private void useObject(int kind) {
@@ -104,15 +125,15 @@ public final class ModelTest {
         int e = random.nextInt(5) - 2;
         boolean add = random.nextInt(3) > 0;
         String names = "(" + t + ", " + o + ", ";
-        if (kind < 26) {
+        if (kind < 30) {
             same("write" + names + e + ")", Check.silent(() -> store.write(t, o, e)),
                 Check.silent(() -> model.write(t, o, e)));
-        } else if (kind < 32) {
+        } else if (kind < 36) {
             same("change" + names + e + ", " + add + ")", Check.silent(() -> store.change(t, o, e, add)),
                 Check.silent(() -> model.change(t, o, e, add)));
-        } else if (kind < 40) {
+        } else if (kind < 42) {
             same("read" + names + ")", () -> store.read(t, o), () -> model.read(t, o));
-        } else if (kind < 43) {
+        } else if (kind < 45) {
             same("count" + names + e + ")", () -> store.count(t, o, e), () -> model.count(t, o, e));
         } else {
             same("element" + names + e + ")", () -> store.element(t, o, e), () -> model.element(t, o, e));
